@@ -19,7 +19,7 @@ public final class WetInk {
     private static final int LAST_HOUR = 9999;
     private static final int MOST_EYES = 99;
     private static final int PLAN_HOURS = 200;
-    private static final int NEVER = Integer.MAX_VALUE;
+    private static final int NEVER = 0x7fffffff;
     private static final long MANY = 1_000_000_000_000_000L;
 
     private static final int WET = 0;
@@ -618,7 +618,7 @@ public final class WetInk {
         }
 
         int paceOf(int reader) {
-            return hasReader(reader) ? paces[reader] : 1;
+            return hasReader(reader) && paces[reader] > 0 ? paces[reader] : 1;
         }
 
         int payOf(int reader) {
@@ -1515,15 +1515,19 @@ public final class WetInk {
 
     /** Finds the fewest readers that dry a span; places that the same readers look at ask for one number. */
     private static final class Hiring {
+        private static final int GROUPS = 1 << READERS;
+
         private final World world;
-        private final int[] needs = new int[16];
-        private final int[] rest = new int[8];
+        private final int[] asked = new int[GROUPS + READERS];
+        private final int[] solved = new int[GROUPS + READERS];
+        private final int[] rest = new int[GROUPS / 2];
         private final int[] counts = new int[READERS];
         private int total;
         private int pay;
 
         Hiring(World world) {
             this.world = world;
+            Arrays.fill(solved, NONE);
         }
 
         int total() {
@@ -1539,23 +1543,26 @@ public final class WetInk {
         }
 
         boolean plan(int leaf, int from, int to) {
-            Arrays.fill(needs, 0);
-            for (int place = from; place <= to; place++) {
-                int group = lookersAt(place);
-                needs[group] = Math.max(needs[group], world.eyesAt(leaf, place));
-            }
-            if (needs[0] > 0) {
+            ask(leaf, from, to);
+            if (asked[0] > 0) {
                 return false;
             }
-            total = NEVER;
-            pay = NEVER;
-            for (int first = needs[1]; first <= mostAsked(needs); first++) {
-                for (int group = 0; group < rest.length; group++) {
-                    rest[group] = Math.max(needs[2 * group], needs[2 * group + 1] - first);
-                }
-                trySecond(first);
+            if (!isSolved()) {
+                solve();
             }
             return true;
+        }
+
+        /** For each group of readers the most eyes of a sign that just they look at, then the readers' pay. */
+        private void ask(int leaf, int from, int to) {
+            Arrays.fill(asked, 0);
+            for (int place = from; place <= to; place++) {
+                int group = lookersAt(place);
+                asked[group] = Math.max(asked[group], world.eyesAt(leaf, place));
+            }
+            for (int reader = 0; reader < READERS; reader++) {
+                asked[GROUPS + reader] = world.told().payOf(reader);
+            }
         }
 
         private int lookersAt(int place) {
@@ -1568,37 +1575,65 @@ public final class WetInk {
             return group;
         }
 
-        /** The most that a group with the row's first reader asks for: more of this reader never help. */
-        private static int mostAsked(int[] row) {
+        // One plan is asked about in several calls, and the search for it is the dearest there is.
+        private boolean isSolved() {
+            for (int i = 0; i < asked.length; i++) {
+                if (asked[i] != solved[i]) {
+                    return false;
+                }
+            }
+            return true;
+        }
+
+        private void solve() {
+            System.arraycopy(asked, 0, solved, 0, asked.length);
+            total = NEVER;
+            pay = NEVER;
+            int most = mostOfFirst(asked, GROUPS);
+            for (int first = asked[1]; first <= most && first <= total; first++) {
+                for (int group = 0; group < rest.length; group++) {
+                    rest[group] = Math.max(asked[2 * group], asked[2 * group + 1] - first);
+                }
+                trySeconds(first);
+            }
+        }
+
+        /** The most that a group with the row's first reader asks for: more than these of it never help. */
+        private static int mostOfFirst(int[] row, int end) {
             int most = 0;
-            for (int group = 1; group < row.length; group += 2) {
+            for (int group = 1; group < end && group < row.length; group += 2) {
                 most = Math.max(most, row[group]);
             }
             return most;
         }
 
-        private void trySecond(int first) {
-            int least = Math.max(rest[2], Math.max(rest[4], rest[6]));
-            int most = mostAsked(rest);
+        // With two counts told the other two follow: each has its least, and what both lack goes to the cheaper.
+        private void trySeconds(int first) {
+            int least = Math.max(rest[2] + rest[4], rest[6]);
+            int most = mostOfFirst(rest, rest.length);
+            boolean thirdIsCheaper = asked[GROUPS + 2] < asked[GROUPS + 3];
             for (int second = rest[1]; second <= most && first + second + least <= total; second++) {
                 int third = Math.max(rest[2], rest[3] - second);
                 int fourth = Math.max(rest[4], rest[5] - second);
-                int together = Math.max(rest[6], rest[7] - second);
-                int spare = Math.max(0, together - third - fourth);
-                if (world.told().payOf(2) < world.told().payOf(3)) {
-                    keep(first, second, third + spare, fourth);
-                } else {
-                    keep(first, second, third, fourth + spare);
+                int lack = Math.max(rest[6], rest[7] - second) - third - fourth;
+                if (lack > 0 && thirdIsCheaper) {
+                    third += lack;
+                } else if (lack > 0) {
+                    fourth += lack;
                 }
+                keepIfBetter(first, second, third, fourth);
             }
         }
 
         // They come with the fewest of the first readers first, so of like ones the first is kept.
-        private void keep(int first, int second, int third, int fourth) {
-            Book told = world.told();
+        private void keepIfBetter(int first, int second, int third, int fourth) {
             int sum = first + second + third + fourth;
-            int cost = first * told.payOf(0) + second * told.payOf(1) + third * told.payOf(2) + fourth * told.payOf(3);
-            if (sum < total || sum == total && cost < pay) {
+            if (sum > total) {
+                return;
+            }
+            int cost = first * asked[GROUPS] + second * asked[GROUPS + 1]
+                    + third * asked[GROUPS + 2] + fourth * asked[GROUPS + 3];
+            if (sum < total || cost < pay) {
                 total = sum;
                 pay = cost;
                 counts[0] = first;
@@ -1811,7 +1846,7 @@ public final class WetInk {
             }
             long before = upTo[place];
             long after = onward[behind(word, place)];
-            return before > MANY / after ? MANY : before * after;
+            return after > 0 && before > MANY / after ? MANY : before * after;
         }
     }
 
