@@ -1273,7 +1273,6 @@ public final class WetInk {
         void tell(Book next) {
             told = next;
             hour = 0;
-            Arrays.fill(letters, 0);
             Arrays.fill(ghosts, 0);
             Arrays.fill(seatLeaves, NONE);
             Arrays.fill(seatPlaces, 0);

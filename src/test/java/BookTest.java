@@ -11,6 +11,7 @@ public final class BookTest {
     tooMany();
     rulesCount();
     clearing();
+    manyBooks();
     Check.finish("BookTest");
   }
 
@@ -272,6 +273,39 @@ public final class BookTest {
     Check.due("rules", x.has(3), 2);
     Check.due("the first rule", x.sign(0, 0, 1), 1);
     Check.due("the second rule", x.sign(0, 1, 1), 2);
+  }
+
+  /** The room of a book that is gone is used again: nothing of it may show. */
+  private static void manyBooks() {
+    String full = "ink a eyes 1;ink b eyes 2;leaf abc ink a;leaf abcd ink b;leaf z ink a;eyes 9 when place=1;eyes 8 when leaf=1;"
+        + "reader r pace 1 skips 0 pay 0;reader s pace 1 skips 0 pay 0;word ab;word c;guard 5 2;";
+    WetInk x = Check.told(full);
+    for (int i = 0; i < 6; i++) {
+      Check.due("a small book", Check.tell(x, "ink b eyes 4;leaf xyz ink b;"), 2);
+      counts(x, 1, 1, 0, 0, 0);
+      Check.due("no rule", x.leaf(0, 6), 12);
+      Check.due("no guard", x.guard(2), 0);
+      if (i % 2 == 0) {
+        Check.due("a book with a fault", Check.tell(x, full + "x"), -1);
+        counts(x, 1, 1, 0, 0, 0);
+      }
+      Check.due("a book without leaves", Check.tell(x, "word a;word b;word ab;"), 3);
+      counts(x, 0, 0, 0, 0, 3);
+      if (i > 2) {
+        Check.due("the full book", Check.tell(x, full), 12);
+        counts(x, 2, 3, 2, 2, 2);
+        Check.due("its rules", x.leaf(1, 6), 33);
+        Check.due("its guard", x.guard(7), 1);
+      }
+    }
+  }
+
+  private static void counts(WetInk x, int inks, int leaves, int readers, int rules, int words) {
+    Check.due("inks", x.has(0), inks);
+    Check.due("leaves", x.has(1), leaves);
+    Check.due("readers", x.has(2), readers);
+    Check.due("rules", x.has(3), rules);
+    Check.due("words", x.has(4), words);
   }
 
   private static void clearing() {

@@ -9,7 +9,7 @@ public final class RandomTest {
   private static Model m;
 
   public static void main(String[] args) {
-    int runs = args.length > 0 ? Integer.parseInt(args[0]) : 500;
+    int runs = args.length > 0 ? Integer.parseInt(args[0]) : 300;
     int first = args.length > 1 ? Integer.parseInt(args[1]) : 1;
     for (int seed = first; seed < first + runs; seed++) {
       random = new Random(seed);
@@ -23,7 +23,7 @@ public final class RandomTest {
   }
 
   private static void oneRun(String name) {
-    for (int books = 0; books < 2; books++) {
+    for (int books = 0; books < 4; books++) {
       String text = new Maker(random).make(m);
       Check.tell(x, text);
       Check.due(name + "fault of " + text, x.fault(0), 0);
@@ -36,6 +36,7 @@ public final class RandomTest {
       for (int i = 0; i < 12; i++) {
         plans(name);
       }
+      letters(name);
       texts(name);
       images(name);
       for (int i = 0; i < 4; i++) {
@@ -184,6 +185,14 @@ public final class RandomTest {
     Check.due(name + 1, x.hire(leaf, from, to, 1), counts == null ? -1 : m.pay(counts));
     Check.due(name + -1, x.hire(leaf, from, to, -1), -1);
     Check.due(name + "of others", x.hire(leaf, from, to, 2 + m.readers.size()), -1);
+  }
+
+  /** Which letters can stand, asked of one leaf after another, ahead of any other call about texts. */
+  private static void letters(String name) {
+    for (int l = 0; l < m.leaves.size(); l++) {
+      int p = random.nextInt(m.leaves.get(l).length());
+      Check.due(name + "some letter in " + l + " " + p, x.could(l, p) > 0, m.onward(l)[0].signum() > 0);
+    }
   }
 
   private static void texts(String name) {

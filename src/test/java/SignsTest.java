@@ -262,13 +262,15 @@ public final class SignsTest {
     Check.due("hours(10)", x.hours(10), -1);
     Check.due("run(10)", x.run(10), -1);
     Check.due("hour 9990 still", x.has(5), 9990);
-    Check.due("hours(9)", x.hours(9), 0);
+    Check.due("hours(8)", x.hours(8), 0);
+    Check.due("run(2)", x.run(2), -1);
+    Check.due("run(1) comes to the last hour", x.run(1) >= 0, true);
     Check.due("hour 9999", x.has(5), 9999);
     Check.due("hours(1)", x.hours(1), -1);
     Check.due("run(1)", x.run(1), -1);
     Check.due("hour 9999 still", x.has(5), 9999);
-    Check.due("read", x.read(0, 0, 4, 9), 5);
-    Check.due("dry since", x.sign(0, 0, 2), 9999);
+    x.read(0, 4, 4, 9);
+    Check.due("dry since", x.sign(0, 4, 2), 9999);
     x.image();
     Check.due("the hour's higher byte", x.octet(0), 39);
     Check.due("the hour's lower byte", x.octet(1), 15);

@@ -6,6 +6,7 @@ public final class TextsTest {
     rows();
     ghosts();
     none();
+    lettersAlone();
     many();
     edgeOfMany();
     Check.finish("TextsTest");
@@ -85,6 +86,18 @@ public final class TextsTest {
     Check.due("text without words", x.text(0, 0, 0), -1);
     Check.due("could without words", x.could(0, 0), 0);
     Check.due("begins without words", x.begins(0, 0, 0), -1);
+  }
+
+  private static void lettersAlone() {
+    WetInk x = Check.told("ink i eyes 3;leaf abc ink i;leaf bb ink i;word ab;word c;word b;");
+    Check.due("could, asked first", x.could(0, 1), 2);
+    Check.due("could of the other leaf", x.could(1, 1), 2);
+    x.wipe(1, 0, 1);
+    Check.due("could behind a wipe", x.could(1, 0), 7);
+    Check.due("could of the last place", x.could(1, 1), 6);
+    x = Check.told("ink i eyes 3;leaf abc ink i;leaf bb ink i;word ab;word c;word b;");
+    Check.due("begins, asked first", x.begins(0, 1, 2), 1);
+    Check.due("begins of the other leaf", x.begins(1, 2, 1), 1);
   }
 
   private static void many() {
