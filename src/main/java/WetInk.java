@@ -1148,6 +1148,7 @@ public final class WetInk {
             while (past < tape.count && isRow(kind) && kindAt(past) == kind) {
                 past++;
             }
+            // A word and a number side by side need a blank: what lacks it is nothing that is ever asked for.
             if (wantsGap && at == before && isRow(kind)) {
                 kind = CLOSE_BY;
             }
