@@ -1,7 +1,10 @@
+import java.util.Arrays;
+
 /** What the project's tests share: a tally of answers, and texts and bytes put on an object's tape. */
 final class Check {
   private static int answers = 0;
   private static int wrong = 0;
+  private static String sentence = "";
 
   private Check() {
   }
@@ -11,9 +14,14 @@ final class Check {
     if (got != want) {
       wrong++;
       if (wrong <= 40) {
-        System.out.println(call + " answered " + got + ", due is " + want);
+        System.out.println(sentence + call + " answered " + got + ", due is " + want);
       }
     }
+  }
+
+  /** What follows is asked of this sentence of the document: a wrong answer tells it. */
+  static void of(String words) {
+    sentence = "[" + words + "] ";
   }
 
   static void due(String call, boolean got, boolean want) {
@@ -73,6 +81,53 @@ final class Check {
     due("signs stay behind " + text, x.leaf(0, 6), 9);
     due("the hour stays behind " + text, x.has(5), 4);
     due("the tape goes behind " + text, x.feed(0, 0, 0, 0, 0), 20);
+  }
+
+  /** All that can be asked of an object without doing anything to it. */
+  static int[] stateOf(WetInk x) {
+    int[] state = new int[20000];
+    int n = 0;
+    for (int what = 0; what <= 10; what++) {
+      state[n++] = x.has(what);
+    }
+    for (int kind = 0; kind < 3; kind++) {
+      for (int which = 0; which < 16; which++) {
+        for (int k = 0; k < 12; k++) {
+          state[n++] = x.letter(kind, which, k);
+        }
+      }
+    }
+    for (int leaf = 0; leaf < x.has(1); leaf++) {
+      for (int place = 0; place < x.leaf(leaf, 0); place++) {
+        for (int what = 0; what < 4; what++) {
+          state[n++] = x.sign(leaf, place, what);
+        }
+        state[n++] = x.stood(leaf, place, 0);
+        state[n++] = x.hire(leaf, place, place, 1);
+        state[n++] = x.could(leaf, place);
+      }
+    }
+    for (int reader = 0; reader < x.has(2); reader++) {
+      for (int what = 0; what < 3; what++) {
+        state[n++] = x.reader(reader, what);
+      }
+    }
+    for (int k = 0; k < x.has(10); k++) {
+      for (int what = 0; what < 4; what++) {
+        state[n++] = x.change(k, what);
+      }
+    }
+    for (int hour = 0; hour < 100; hour++) {
+      state[n++] = x.guard(hour);
+    }
+    return Arrays.copyOf(state, n);
+  }
+
+  static void same(String name, int[] got, int[] want) {
+    due(name + ": how long", got.length, want.length);
+    for (int k = 0; k < got.length && k < want.length; k++) {
+      due(name + ": number " + k, got[k], want[k]);
+    }
   }
 
   static int[] imageOf(WetInk x) {

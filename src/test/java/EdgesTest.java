@@ -1,0 +1,12 @@
+/** Each sentence of the document that names an edge: just inside it, just outside it, and what is refused. */
+public final class EdgesTest {
+  public static void main(String[] args) {
+    BookEdges.run();
+    ActEdges.run();
+    PastEdges.run();
+    PlanEdges.run();
+    TextEdges.run();
+    ImageEdges.run();
+    Check.finish("EdgesTest");
+  }
+}
