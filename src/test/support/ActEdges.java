@@ -256,6 +256,7 @@ final class ActEdges {
     Check.same("nothing is done", Check.stateOf(x), before);
     Check.due("to hour 9999", x.hours(1), 2);
     Check.due("DRY since", x.sign(1, 0, 2), 9999);
+    lastByRun();
     Check.due("HOUR", x.has(5), 9999);
     Check.due("no hour behind it", x.hours(1), -1);
     Check.due("nor by a run", x.run(1), -1);
@@ -268,6 +269,16 @@ final class ActEdges {
     Check.due("DRY since 1, too", y.sign(0, 1, 2), 1);
     Check.due("the next hour dries nothing", y.hours(1), 0);
     Check.due("still since 1", y.sign(0, 1, 2), 1);
+  }
+
+  private static void lastByRun() {
+    WetInk x = Check.told(BOOK);
+    for (int i = 0; i < 10; i++) {
+      x.hours(980);
+    }
+    Check.due("200 hours to 10000", x.run(200), -1);
+    Check.due("199 hours to 9999", x.run(199) >= 0, true);
+    Check.due("HOUR behind the run", x.has(5), 9999);
   }
 
   private static void leaf() {
@@ -291,6 +302,14 @@ final class ActEdges {
     Check.due("the most eyes without a WET sign", x.leaf(2, 5), 0);
     Check.due("all eyes without a WET sign", x.leaf(2, 6), 0);
     WetInk y = Check.told("ink i eyes 1;leaf " + Check.times("a", 64) + " ink i;eyes 99 when all;");
+    for (int place = 0; place < 64; place += 63) {
+      WetInk one = Check.told("ink i eyes 1;leaf " + Check.times("a", 64) + " ink i;eyes 9 when place=" + place + ";");
+      Check.due("the most eyes are in place " + place, one.leaf(0, 5), 9);
+      Check.due("all eyes with that", one.leaf(0, 6), 72);
+      one.read(0, place, place, 9);
+      Check.due("DRY signs", one.leaf(0, 2), 1);
+      Check.due("WET signs", one.leaf(0, 1), 63);
+    }
     Check.due("the most eyes there can be", y.leaf(0, 5), 99);
     Check.due("all eyes there can be", y.leaf(0, 6), 6336);
   }

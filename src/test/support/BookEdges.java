@@ -24,6 +24,7 @@ final class BookEdges {
     ownWords();
     spells();
     grammar();
+    tests();
     digits();
     divisions();
     limits();
@@ -79,7 +80,7 @@ final class BookEdges {
   }
 
   private static void statements() {
-    Check.of("A BOOK is a text: { STATEMENT ; } (80 at most)");
+    Check.of("I: A BOOK is a text: { STATEMENT ; } (80 at most)");
     Check.told("");
     Check.told(" ");
     Check.told("guard 1 0;");
@@ -92,7 +93,7 @@ final class BookEdges {
   }
 
   private static void inks() {
-    Check.of("ink NAME eyes N (1 .. 20; 6 INKS)");
+    Check.of("I: ink NAME eyes N (1 .. 20; 6 INKS)");
     range("ink i eyes ", ";", 1, 20);
     most("", each("ink ", " eyes 1;"), 6);
     WetInk x = Check.told("ink i eyes 1;ink j eyes 20;leaf a ink i;leaf a ink j;");
@@ -101,7 +102,7 @@ final class BookEdges {
   }
 
   private static void leaves() {
-    Check.of("leaf SPELL ink NAME (1 to 64 letters, an INK; 8 LEAVES)");
+    Check.of("I: leaf SPELL ink NAME (1 to 64 letters, an INK; 8 LEAVES)");
     String ink = "ink i eyes 1;";
     Check.faulty(ink + "leaf  ink i;", 1, ink.length() + 10);
     Check.due("one place", Check.told(ink + "leaf a ink i;").leaf(0, 0), 1);
@@ -116,7 +117,7 @@ final class BookEdges {
   }
 
   private static void readers() {
-    Check.of("reader NAME pace N skips N pay N (1 .. 64, 0 or 2 .. 9, 0 .. 99; 4 READERS)");
+    Check.of("I: reader NAME pace N skips N pay N (1 .. 64, 0 or 2 .. 9, 0 .. 99; 4 READERS)");
     range("reader r pace ", " skips 0 pay 0;", 1, 64);
     range("reader r pace 1 skips ", " pay 0;", 0, 9);
     range("reader r pace 1 skips ", " pay 0;", 2, 9);
@@ -127,14 +128,14 @@ final class BookEdges {
   }
 
   private static void rules() {
-    Check.of("eyes SUM when TEST (8 RULES)");
+    Check.of("I: eyes SUM when TEST (8 RULES)");
     most("", new String[] {"eyes 1 when all;"}, 8);
     WetInk x = Check.told("ink i eyes 1;leaf a ink i;" + Check.times("eyes 5 when not all;", 7) + "eyes 6 when all;");
     Check.due("the eighth rule counts", x.sign(0, 0, 1), 6);
   }
 
   private static void words() {
-    Check.of("word SPELL (1 to 12 letters, unlike ones; 16 WORDS)");
+    Check.of("I: word SPELL (1 to 12 letters, unlike ones; 16 WORDS)");
     Check.faulty("word ;", 1, 5);
     Check.told("word a;");
     Check.told("word abcdefghijkl;");
@@ -147,7 +148,7 @@ final class BookEdges {
   }
 
   private static void guards() {
-    Check.of("guard N N (every so many HOURS, 1 .. 99, from an HOUR 0 .. 98 below that on; the last one counts; never without)");
+    Check.of("I: guard N N (every so many HOURS, 1 .. 99, from an HOUR 0 .. 98 below that on; the last one counts; never without)");
     range("guard ", " 0;", 1, 99);
     range("guard 1 ", ";", 0, 0);
     range("guard 2 ", ";", 0, 1);
@@ -173,7 +174,7 @@ final class BookEdges {
   }
 
   private static void names() {
-    Check.of("NAMES: 1 to 6 letters, no OWN WORD, unlike ones (INKS, READERS), told ahead of where they are asked.");
+    Check.of("I: NAMES: 1 to 6 letters, no OWN WORD, unlike ones (INKS, READERS), told ahead of where they are asked.");
     Check.told("ink a eyes 1;ink abcdef eyes 1;ink abcdeg eyes 1;reader zzzzzz pace 1 skips 0 pay 0;");
     Check.faulty("ink  eyes 1;", 1, 5);
     Check.faulty("ink ; eyes 1;", 1, 4);
@@ -190,7 +191,7 @@ final class BookEdges {
   }
 
   private static void ownWords() {
-    Check.of("OWN WORDS: ink, eyes, leaf, reader, pace, skips, pay, when, word, guard, or, and, not, all, place, letter, "
+    Check.of("I: OWN WORDS: ink, eyes, leaf, reader, pace, skips, pay, when, word, guard, or, and, not, all, place, letter, "
         + "needs, min, max.");
     for (String own : OWN) {
       Check.faulty("ink " + own + " eyes 1;", 1, 4);
@@ -206,7 +207,7 @@ final class BookEdges {
   }
 
   private static void spells() {
-    Check.of("A SPELL is a row of letters of any sort.");
+    Check.of("I: A SPELL is a row of letters of any sort.");
     WetInk x = Check.told("ink i eyes 1;leaf abcdefghijklmnopqrstuvwxyz ink i;word abcdefghijkl;word mnopqrstuvwx;word yz;");
     for (int place = 0; place < 26; place++) {
       Check.due("letter of place " + place, x.sign(0, place, 0), place + 1);
@@ -223,7 +224,7 @@ final class BookEdges {
   }
 
   private static void grammar() {
-    Check.of("TEST: BOTH { or BOTH }. BOTH: FACT { and FACT }. FACT: not FACT; [ TEST ] ; all; SUM SIGN SUM");
+    Check.of("I: TEST: BOTH { or BOTH }. BOTH: FACT { and FACT }. FACT: not FACT; [ TEST ] ; all; SUM SIGN SUM");
     Check.told("eyes 1 when all" + Check.times(" or all", 190) + ";");
     Check.told("eyes 1 when all" + Check.times(" and all", 170) + ";");
     Check.told("eyes 1 when 1" + Check.times("+1", 390) + "=1" + Check.times("*1", 390) + ";");
@@ -247,8 +248,45 @@ final class BookEdges {
     Check.faulty("eyes +1 when all;", 1, 5);
   }
 
+  private static void holds(String test, boolean want) {
+    WetInk x = Check.told("ink i eyes 5;leaf b ink i;leaf bcdz ink i;eyes 7 when " + test + ";");
+    Check.due(test, x.sign(1, 3, 1), want ? 7 : 5);
+  }
+
+  private static void tests() {
+    Check.of("I: FACT: not FACT; [ TEST ] ; all; SUM SIGN SUM, SIGN < or > or = .");
+    String[] facts = {"not all", "all"};
+    for (int a = 0; a < 2; a++) {
+      holds(facts[a], a == 1);
+      holds("not " + facts[a], a == 0);
+      holds("not not " + facts[a], a == 1);
+      holds("[" + facts[a] + "]", a == 1);
+      for (int b = 0; b < 2; b++) {
+        holds(facts[a] + " or " + facts[b], a + b > 0);
+        holds(facts[a] + " and " + facts[b], a + b > 1);
+        holds("not [" + facts[a] + " or " + facts[b] + "]", a + b == 0);
+        for (int c = 0; c < 2; c++) {
+          holds(facts[a] + " or " + facts[b] + " and " + facts[c], a == 1 || b + c == 2);
+          holds(facts[a] + " and " + facts[b] + " or " + facts[c], c == 1 || a + b == 2);
+          holds("[" + facts[a] + " or " + facts[b] + "] and " + facts[c], a + b > 0 && c == 1);
+        }
+      }
+    }
+    for (int n = 2; n <= 4; n++) {
+      holds("place<" + n, 3 < n);
+      holds("place>" + n, 3 > n);
+      holds("place=" + n, 3 == n);
+      holds("not place=" + n, 3 != n);
+      eyes("min(place," + n + ")", Math.min(3, n));
+      eyes("max(" + n + ",place)", Math.max(3, n));
+    }
+    holds("0-1<0", true);
+    holds("0-1>0-2", true);
+    holds("9999*9999=9999*9998", true);
+  }
+
   private static void digits() {
-    Check.of("PART: N (1 to 4 digits)");
+    Check.of("I: PART: N (1 to 4 digits)");
     Check.told("eyes 0 when 9999>0000;");
     Check.faulty("eyes 00000 when all;", 1, 9);
     Check.faulty("eyes 1 when all and 99999=1;", 1, 24);
@@ -263,7 +301,7 @@ final class BookEdges {
   }
 
   private static void divisions() {
-    Check.of("All from the left on; / gives the greatest whole number not above, by 0 it gives 0");
+    Check.of("I: All from the left on; / gives the greatest whole number not above, by 0 it gives 0");
     eyes("20-5-4", 11);
     eyes("48/4/3", 4);
     eyes("7/2*2", 6);
@@ -283,7 +321,7 @@ final class BookEdges {
   }
 
   private static void limits() {
-    Check.of("each sum, difference, product above 10 to the 6 is that, below -10 to the 6 likewise");
+    Check.of("I: each sum, difference, product above 10 to the 6 is that, below -10 to the 6 likewise");
     eyes("1000*1000-9999*100-98", 2);
     eyes("1000*1000-1-9999*100-97", 2);
     eyes("1000*1000+1-9999*100-98", 2);
@@ -299,7 +337,7 @@ final class BookEdges {
   }
 
   private static void parts() {
-    Check.of("(place of the sign on its leaf, the leaf's number, letter 1 .. 26, needs: the eyes of its ink.)");
+    Check.of("I: (place of the sign on its leaf, the leaf's number, letter 1 .. 26, needs: the eyes of its ink.)");
     eyes("place", 3);
     eyes("leaf", 1);
     eyes("letter", 26);
@@ -310,7 +348,7 @@ final class BookEdges {
   }
 
   private static void blanks() {
-    Check.of("Blanks (10, 32) are where one likes");
+    Check.of("I: Blanks (10, 32) are where one likes");
     for (int sign = 0; sign < 256; sign++) {
       char c = (char) sign;
       boolean blank = sign == 10 || sign == 32;
@@ -332,7 +370,7 @@ final class BookEdges {
   }
 
   private static void sideBySide() {
-    Check.of("(words and numbers side by side need one)");
+    Check.of("I: (words and numbers side by side need one)");
     Check.faulty("inki eyes 1;", 1, 0);
     Check.faulty("ink ieyes 1;", 1, 10);
     Check.faulty("ink i eyes1;", 1, 10);
@@ -349,7 +387,7 @@ final class BookEdges {
   }
 
   private static void firstAlong() {
-    Check.of("FAULTS, the first along the text");
+    Check.of("I: FAULTS, the first along the text");
     String[] bad = {"%;", "guard 0 0;", "leaf a ink q;", "eyes (((((((1))))))) when all;"};
     int[] kinds = {1, 2, 3, 4};
     int[] places = {0, 6, 11, 11};
@@ -377,7 +415,7 @@ final class BookEdges {
   }
 
   private static void noSuchText() {
-    Check.of("1 the first byte with which no such text goes on");
+    Check.of("I: 1 the first byte with which no such text goes on");
     List<String> tokens = tokens();
     for (int k = 0; k <= tokens.size(); k++) {
       String ahead = before(tokens, k);
@@ -390,7 +428,7 @@ final class BookEdges {
   }
 
   private static void wholeWords() {
-    Check.of("words and numbers whole, at their first byte; where a NAME is asked, an OWN WORD so, a 7th letter at itself; "
+    Check.of("I: words and numbers whole, at their first byte; where a NAME is asked, an OWN WORD so, a 7th letter at itself; "
         + "of a SPELL a letter too many at itself; a 5th digit at itself");
     List<String> tokens = tokens();
     for (int k = 0; k < tokens.size(); k++) {
@@ -428,7 +466,7 @@ final class BookEdges {
   }
 
   private static void endsTooSoon() {
-    Check.of("at the text's length, if it ends too soon");
+    Check.of("I: at the text's length, if it ends too soon");
     List<String> tokens = tokens();
     for (int k = 1; k <= tokens.size(); k++) {
       String ahead = before(tokens, k);
@@ -445,7 +483,7 @@ final class BookEdges {
   }
 
   private static void wrongNumbers() {
-    Check.of("2 a number (of 1 to 4 digits) that can't be, at it");
+    Check.of("I: 2 a number (of 1 to 4 digits) that can't be, at it");
     Check.faulty("ink i eyes   0;", 2, 13);
     Check.faulty("ink i eyes 0000;", 2, 11);
     Check.faulty("ink i eyes 00000;", 1, 15);
@@ -458,7 +496,7 @@ final class BookEdges {
   }
 
   private static void wrongNames() {
-    Check.of("3 a NAME to be given that is there already, one that is none of what is asked, a word that is there already, at it");
+    Check.of("I: 3 a NAME to be given that is there already, one that is none of what is asked, a word that is there already, at it");
     Check.faulty("ink i eyes 1;ink \n i", 3, 19);
     Check.faulty("ink i eyes 1;reader  i", 3, 21);
     Check.faulty("leaf a ink  i", 3, 12);
@@ -468,7 +506,7 @@ final class BookEdges {
   }
 
   private static void openAtOnce() {
-    Check.of("4 the 7th ( [ not that is open at once (not until its FACT ends), at it");
+    Check.of("I: 4 the 7th ( [ not that is open at once (not until its FACT ends), at it");
     String[] opening = {"(", "min(", "max(1,"};
     String[] closing = {")", ",1)", ")"};
     for (int i = 0; i < opening.length; i++) {
@@ -493,7 +531,7 @@ final class BookEdges {
   }
 
   private static void oneTooMany() {
-    Check.of("5 one too many of a kind, an 81st STATEMENT (whatever stands there), at its first byte.");
+    Check.of("I: 5 one too many of a kind, an 81st STATEMENT (whatever stands there), at its first byte.");
     String six = String.join("", List.of(each("ink ", " eyes 1;")).subList(0, 6));
     Check.faulty(six + "ink", 5, 78);
     Check.faulty(six + "ink %", 5, 78);
@@ -628,6 +666,25 @@ final class BookEdges {
     Check.due("of the old words nothing", y.letter(2, 0, 0), -1);
     Check.due("what stood is what is told", y.stood(0, 1, 0), 2);
     Check.due("80 statements", Check.tell(y, Check.times("guard 1 0;", 80)), 80);
+    booksInTurn();
+  }
+
+  /** Two books take turns inside: what was there two books ago must not show, nor what a book with a fault left. */
+  private static void booksInTurn() {
+    WetInk x = lively();
+    String wide = "ink abcdef eyes 2;ink ghijkl eyes 3;leaf abcdefgh ink abcdef;leaf abcdefgh ink ghijkl;leaf ab ink ghijkl;"
+        + "reader mnopqr pace 9 skips 9 pay 9;reader stuvwx pace 8 skips 8 pay 8;word abcdefghijkl;word mnopqrstuvwx;"
+        + "eyes 9 when all;eyes 8 when all;guard 9 8;";
+    String narrow = "ink a eyes 1;leaf z ink a;reader b pace 1 skips 0 pay 1;word c;";
+    int[] first = Check.stateOf(Check.told(narrow));
+    for (int i = 0; i < 9; i++) {
+      Check.tell(x, i % 3 == 0 ? wide + "x" : wide);
+      Check.due("a narrow book behind a wide one", Check.tell(x, narrow), 4);
+      Check.same("behind a wide one", Check.stateOf(x), first);
+      Check.due("an empty book", Check.tell(x, i % 2 == 0 ? "" : "ink"), i % 2 == 0 ? 0 : -1);
+      Check.due("a narrow book once more", Check.tell(x, narrow), 4);
+      Check.same("once more", Check.stateOf(x), first);
+    }
   }
 
   private static void fault() {

@@ -1,10 +1,13 @@
 import java.util.Arrays;
+import java.util.HashSet;
+import java.util.Set;
 
 /** What the project's tests share: a tally of answers, and texts and bytes put on an object's tape. */
 final class Check {
   private static int answers = 0;
   private static int wrong = 0;
   private static String sentence = "";
+  private static final Set<String> SENTENCES = new HashSet<>();
 
   private Check() {
   }
@@ -22,6 +25,12 @@ final class Check {
   /** What follows is asked of this sentence of the document: a wrong answer tells it. */
   static void of(String words) {
     sentence = "[" + words + "] ";
+    SENTENCES.add(words);
+  }
+
+  /** Whether something was asked of a sentence that begins so. */
+  static boolean asked(String words) {
+    return SENTENCES.stream().anyMatch(s -> s.startsWith(words));
   }
 
   static void due(String call, boolean got, boolean want) {

@@ -247,6 +247,9 @@ final class PlanEdges {
     Check.due("four hours need no bars", x.bars(0, 0, 3, 1, 200), 0);
     Check.due("one hour, the guard in it", x.forge(0, 0, 0, 1, 199), 198);
     Check.due("one hour behind it", x.forge(0, 0, 0, 1, 200), 200);
+    Check.due("three hours from the midst on", x.forge(0, 3, 5, 1, 6), 4);
+    Check.due("three hours from the midst on, barred", x.bars(0, 3, 5, 1, 6), 2);
+    Check.due("the last place alone", x.forge(0, 5, 5, 1, 6), 6);
     Check.tell(x, "ink i eyes 1;leaf abcdef ink i;guard 1 0;");
     Check.due("always there", x.forge(0, 0, 0, 64, 200), -1);
     Check.due("always there: no bars", x.bars(0, 0, 0, 64, 200), 0);
