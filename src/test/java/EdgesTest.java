@@ -7,6 +7,7 @@ public final class EdgesTest {
     PlanEdges.run();
     TextEdges.run();
     ImageEdges.run();
+    NoneEdges.run();
     Check.of("every promise");
     for (int promise = 1; promise <= 34; promise++) {
       Check.due("promise " + promise + " was asked about", Check.asked("Promise " + promise + ","), true);

@@ -244,6 +244,12 @@ final class BookEdges {
     Check.faulty("eyes min(1,) when all;", 1, 11);
     Check.faulty("eyes max(1,2,3) when all;", 1, 12);
     Check.faulty("eyes max 1,2 when all;", 1, 9);
+    for (String own : new String[] {"min", "max"}) {
+      for (String mark : new String[] {"*", "/", "+", "-", ",", ")", "[", ";", "<", "1", "place", "when", own}) {
+        Check.faulty("eyes " + own + " " + mark + " 2 when all;", 1, 9);
+        Check.faulty("eyes 1 when " + own + " " + mark + " 2;", 1, 16);
+      }
+    }
     Check.faulty("eyes 1* when all;", 1, 8);
     Check.faulty("eyes +1 when all;", 1, 5);
   }
@@ -667,6 +673,7 @@ final class BookEdges {
     Check.due("what stood is what is told", y.stood(0, 1, 0), 2);
     Check.due("80 statements", Check.tell(y, Check.times("guard 1 0;", 80)), 80);
     booksInTurn();
+    longRules();
   }
 
   /** Two books take turns inside: what was there two books ago must not show, nor what a book with a fault left. */
@@ -684,6 +691,19 @@ final class BookEdges {
       Check.due("an empty book", Check.tell(x, i % 2 == 0 ? "" : "ink"), i % 2 == 0 ? 0 : -1);
       Check.due("a narrow book once more", Check.tell(x, narrow), 4);
       Check.same("once more", Check.stateOf(x), first);
+    }
+  }
+
+  /** The steps of rules take much room, and must find it free again. */
+  private static void longRules() {
+    WetInk x = new WetInk();
+    String rule = "eyes 1" + Check.times("+1-1", 40) + " when 1" + Check.times("*2/2", 40) + "=1;";
+    String book = "ink i eyes 9;leaf a ink i;" + rule + rule + rule;
+    for (int i = 0; i < 30; i++) {
+      Check.due("a book of long rules", Check.tell(x, book), 5);
+      Check.due("they count", x.sign(0, 0, 1), 1);
+      Check.due("one with a fault", Check.tell(x, book + "eyes 1+1+1+1+1"), -1);
+      Check.due("they still count", x.write(0, 0, 2, 0), 1);
     }
   }
 
